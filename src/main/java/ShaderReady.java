@@ -674,7 +674,11 @@ public final class ShaderReady {
         }
 
         boolean endsTimes(int line) {
-            return kinds[partners[line]] == WORD_TIMES;
+            return partners[line] >= 0 && kinds[partners[line]] == WORD_TIMES;
+        }
+
+        boolean hasElse(int when) {
+            return partners[when] >= 0 && kinds[partners[when]] == WORD_ELSE;
         }
     }
 
@@ -1154,15 +1158,28 @@ public final class ShaderReady {
                     beginWhen(lines, line);
                     return line + 1;
                 case WORD_ELSE:
-                    System.arraycopy(now, 0, firsts[depth - 1], 0, MOST_NAMES);
-                    System.arraycopy(begins[depth - 1], 0, now, 0, MOST_NAMES);
+                    endFirstPart(depth - 1);
                     return line + 1;
                 case WORD_TIMES:
-                    left[depth] = lines.numbers[line];
-                    depth++;
+                    beginTimes(lines.numbers[line]);
                     return line + 1;
                 default:
                     return lines.endsTimes(line) ? endTimes(lines, line) : endWhen(lines, line);
+            }
+        }
+
+        private void beginTimes(int times) {
+            if (depth < MOST_DEPTH) {
+                left[depth] = times;
+                depth++;
+            }
+        }
+
+        /** What stands now is the first part's; the second one goes on from the same begin. */
+        private void endFirstPart(int level) {
+            if (level >= 0) {
+                System.arraycopy(now, 0, firsts[level], 0, MOST_NAMES);
+                System.arraycopy(begins[level], 0, now, 0, MOST_NAMES);
             }
         }
 
@@ -1211,8 +1228,11 @@ public final class ShaderReady {
 
         private void beginWhen(Lines lines, int line) {
             int flag = argValue(lines, line, 0);
+            if (flag == NONE || depth >= MOST_DEPTH) {
+                return;
+            }
             flags[depth] = flag;
-            if (flag != NONE && !values.uniform[flag]) {
+            if (!values.uniform[flag]) {
                 values.parted[lines.numbers[line]] = true;
             }
             System.arraycopy(now, 0, begins[depth], 0, MOST_NAMES);
@@ -1220,6 +1240,9 @@ public final class ShaderReady {
         }
 
         private int endTimes(Lines lines, int line) {
+            if (depth == 0) {
+                return line + 1;
+            }
             left[depth - 1]--;
             if (left[depth - 1] > 0) {
                 return lines.partners[line] + 1;
@@ -1229,13 +1252,13 @@ public final class ShaderReady {
         }
 
         private int endWhen(Lines lines, int line) {
-            depth--;
             int when = lines.partners[line];
-            boolean hasElse = lines.kinds[lines.partners[when]] == WORD_ELSE;
-            if (!hasElse) {
-                // the second part has no line: it ends as it began
-                System.arraycopy(now, 0, firsts[depth], 0, MOST_NAMES);
-                System.arraycopy(begins[depth], 0, now, 0, MOST_NAMES);
+            if (depth == 0 || when < 0) {
+                return line + 1;
+            }
+            depth--;
+            if (!lines.hasElse(when)) {
+                endFirstPart(depth);
             }
             for (int slot = 0; slot < lines.slots[when] && fault == 0; slot++) {
                 int value = values.ofOp(PICK, flags[depth], firsts[depth][slot], now[slot]);
@@ -1337,8 +1360,7 @@ public final class ShaderReady {
                 case WORD_ELSE:
                     return lines.partners[line] + 1;
                 case WORD_TIMES:
-                    left[depth] = lines.numbers[line];
-                    depth++;
+                    walkTimes(lines.numbers[line]);
                     return line + 1;
                 case WORD_END:
                     return lines.endsTimes(line) ? walkTimesEnd(lines, line) : line + 1;
@@ -1355,7 +1377,17 @@ public final class ShaderReady {
             slots[lines.slots[line]] = made(op, taken[0], taken[1], taken[2], bench.cells);
         }
 
+        private void walkTimes(int times) {
+            if (depth < MOST_DEPTH) {
+                left[depth] = times;
+                depth++;
+            }
+        }
+
         private int walkTimesEnd(Lines lines, int line) {
+            if (depth == 0) {
+                return line + 1;
+            }
             left[depth - 1]--;
             if (left[depth - 1] > 0) {
                 return lines.partners[line] + 1;
@@ -1813,8 +1845,8 @@ public final class ShaderReady {
         private final Values values;
         private final Facts facts;
         private final Needs needs;
-        /** By set: the least of the pressures that lead to it; NEVER if none does. */
-        private final int[] roads = new int[1 << MOST_BEST];
+        /** By set: the least of the pressures that lead to it; NEVER if none does. It grows as is needed. */
+        private int[] roads = new int[1];
         private final int[] members = new int[MOST_BEST];
         private final int[] sourceSets = new int[MOST_BEST];
         private final int[] userSets = new int[MOST_BEST];
@@ -1829,6 +1861,9 @@ public final class ShaderReady {
         int reckon() {
             gather();
             int full = (1 << size) - 1;
+            if (roads.length <= full) {
+                roads = new int[full + 1];
+            }
             for (int set = 0; set <= full; set++) {
                 roads[set] = NEVER;
             }
