@@ -410,6 +410,7 @@ public final class PromisesTest {
                 due("ran number " + lane, x.ran(lane, 2), 6);
             }
         }
+        walkedLoops();
         due("shown(2)", x.value(x.shown(2), 1), 6);
         due("shown(3)", x.shown(3), NONE);
         due("shown(-1)", x.shown(-1), NONE);
@@ -420,6 +421,20 @@ public final class PromisesTest {
         }
         due("walked does not throw", walkedThrows(x, 3, 2), 0);
         due("ran does not throw", ranThrows(x, 3, 2), 0);
+    }
+
+    private static void walkedLoops() {
+        // four within one another, then five in a row: 2 * 3 * 2 * 2 and 5 * 2 sums
+        ShaderReady x = Due.of("lane a 1 9;b is copy 0;times 2;times 3;times 2;times 2;b is add b a;end;end;end;end;show b;"
+            + "times 2;b is add b a;end;times 2;b is add b a;end;times 2;b is add b a;end;times 2;b is add b a;end;"
+            + "times 2;b is add b a;end;show b;");
+        x.set(0, 1, 3);
+        for (int lane = 0; lane < 2; lane++) {
+            due("walked four within", x.walked(lane, 0), lane == 0 ? 24 : 72);
+            due("ran four within", x.ran(lane, 0), lane == 0 ? 24 : 72);
+            due("walked five in a row", x.walked(lane, 1), lane == 0 ? 34 : 102);
+            due("ran five in a row", x.ran(lane, 1), lane == 0 ? 34 : 102);
+        }
     }
 
     private static void all() {
