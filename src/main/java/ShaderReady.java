@@ -1789,9 +1789,6 @@ public final class ShaderReady {
             clauses = 0;
             cycles = 0;
             for (int place = 0; place < size; place++) {
-                clauseOf[line[place]] = NONE;
-            }
-            for (int place = 0; place < size; place++) {
                 int value = line[place];
                 boolean tex = values.made[value] == TEX;
                 if (!joins(value, tex, tex ? fetch : alu)) {

@@ -11,25 +11,10 @@ final class CallEdges {
     }
 
     void ask() {
-        setWithinItsRange();
-        setGiven();
-        setWhatItHad();
-        setOthers();
-        sixteenCells();
-        cellWhatItWas();
-        cellOthers();
-        rules();
-        ruleOthers();
-        narrowInWhichItIs();
-        narrowLimits();
-        narrowOthers();
-        narrowChanges();
-        input();
-        inputOthers();
-        lanes();
-        counts();
-        namesAtTheEnd();
-        countOthers();
+        s.each(this::setWithinItsRange, this::setGiven, this::setWhatItHad, this::setOthers, this::sixteenCells,
+            this::cellWhatItWas, this::cellOthers, this::rules, this::ruleOthers, this::narrowInWhichItIs,
+            this::narrowLimits, this::narrowOthers, this::narrowChanges, this::input, this::inputOthers, this::lanes,
+            this::counts, this::namesAtTheEnd, this::countOthers);
     }
 
     private void setWithinItsRange() {
@@ -207,6 +192,22 @@ final class CallEdges {
         s.due("WIDTH then", x.value(0, 10), 1);
         s.holds("wide again", x.narrow(0, 0, 5));
         s.due("open again", x.count(3), 3);
+        // all is as if the RANGE had been told
+        String text = " a 2 900;lane w 0 999;b is add a 1;f is less a 50;p is pick f b w;q is tex p;r is min a 40;show q;show r;";
+        int[][] ranges = {{2, 900}, {2, 49}, {2, 2}, {0, 999}};
+        for (String kind : new String[] {"lane", "given"}) {
+            for (int[] from : ranges) {
+                for (int[] to : ranges) {
+                    ShaderReady y = Due.of(kind + text);
+                    s.holds("narrow", y.narrow(0, from[0], from[1]) && y.narrow(0, to[0], to[1]));
+                    ShaderReady told = Due.of(kind + text.replace("2 900", to[0] + " " + to[1]));
+                    for (int lane = 0; lane < 4; lane++) {
+                        told.set(0, lane, 2);
+                    }
+                    s.due("as told, " + kind + " " + to[0] + " to " + to[1], Answers.of(y), Answers.of(told));
+                }
+            }
+        }
     }
 
     private void input() {

@@ -14,18 +14,9 @@ final class ChoiceEdges {
     }
 
     void ask() {
-        allElseAsNow();
-        byOthers();
-        aloneShown();
-        aloneByTheRule();
-        aloneOthers();
-        narrowedLimits();
-        narrowedWhatever();
-        narrowedWhats();
-        narrowedOthers();
-        swappedNext();
-        swappedSource();
-        swappedOthers();
+        s.each(this::allElseAsNow, this::byOthers, this::aloneShown, this::aloneByTheRule, this::aloneOthers,
+            this::narrowedLimits, this::narrowedWhatever, this::narrowedWhats, this::narrowedOthers, this::swappedNext,
+            this::swappedSource, this::swappedOthers);
     }
 
     private void allElseAsNow() {
@@ -117,6 +108,7 @@ final class ChoiceEdges {
         s.due("-1 to 999", x.narrowed(2, -1, 999, 5), NONE);
         s.due("0 to 1,000", x.narrowed(2, 0, 1000, 5), NONE);
         s.due("low is high", x.narrowed(2, 7, 7, 7), 1);
+        s.due("low is high of the first INPUT", x.narrowed(0, 3, 3, 7), 1);
         s.due("low above high", x.narrowed(2, 8, 7, 7), NONE);
         s.due("999 to 999", x.narrowed(2, 999, 999, 7), 1);
         s.due("0 to 0", x.narrowed(2, 0, 0, 7), 2);

@@ -11,25 +11,10 @@ final class FaultEdges {
     }
 
     void ask() {
-        placeFromZero();
-        theEnd();
-        firstFromTheLeft();
-        theLeast();
-        cannotStand();
-        notTold();
-        toldAlready();
-        nameOfAnInput();
-        secondTime();
-        notAsTold();
-        seventhInput();
-        twentyFirst();
-        withinFour();
-        anotherType();
-        pickAsTheName();
-        copyAsTheName();
-        anotherOp();
-        allStays();
-        nothingWrong();
+        s.each(this::placeFromZero, this::theEnd, this::firstFromTheLeft, this::theLeast, this::cannotStand, this::notTold,
+            this::toldAlready, this::nameOfAnInput, this::secondTime, this::notAsTold, this::seventhInput, this::twentyFirst,
+            this::withinFour, this::anotherType, this::pickAsTheName, this::copyAsTheName, this::anotherOp, this::allStays,
+            this::nothingWrong);
     }
 
     private void placeFromZero() {
@@ -210,43 +195,23 @@ final class FaultEdges {
         String[] wrong = {"?", "lane q 3 4;show z;", "fetch 1;alu 1;lane q 0 1;times 2;", "times 9;show 1;end;",
             "lane q 1 2;b is copy q;times 9;times 9;b is add b q;end;end;", "f is less 1 2;when f;end;when f;end;?"};
         for (String text : wrong) {
-            ShaderReady x = Due.of("fetch 2;alu 3;lane a 1 9;b is add a 7;f is less a 5;when f;b is tex b;end;show b;show a;");
-            x.set(0, 1, 4);
-            x.narrow(0, 1, 6);
-            x.cell(3, 33);
-            x.rule(2);
-            long before = state(x);
+            ShaderReady x = standing();
             s.holds("a fault of " + text, Due.shader(x, text) != 0);
-            s.due("all stays behind " + text, state(x), before);
+            s.due("all stays behind " + text, Answers.of(x), Answers.of(standing()));
+            ShaderReady next = standing();
+            s.holds("a fault of " + text, Due.shader(next, text) != 0);
+            s.holds("and another", Due.shader(next, text) != 0);
+            s.due("two times " + text, Answers.of(next), Answers.of(standing()));
         }
     }
 
-    /** What an object answers, mixed into one number. */
-    private static long state(ShaderReady x) {
-        long sum = 0;
-        for (int what = 0; what < 13; what++) {
-            sum = sum * 31 + x.count(what);
-            sum = sum * 31 + x.input(0, what);
-            sum = sum * 31 + x.all(what);
-        }
-        for (int v = 0; v < 10; v++) {
-            for (int what = 0; what < 11; what++) {
-                sum = sum * 31 + x.value(v, what);
-            }
-            sum = sum * 31 + x.range(v, 0);
-            sum = sum * 31 + x.range(v, 1);
-            sum = sum * 31 + x.order(v);
-            sum = sum * 31 + x.place(v, 2);
-            sum = sum * 31 + x.at(v, 2);
-            sum = sum * 31 + x.clause(v, 3);
-            sum = sum * 31 + x.parts(v);
-            sum = sum * 31 + x.shown(v);
-        }
-        for (int lane = 0; lane < 4; lane++) {
-            sum = sum * 31 + x.walked(lane, 0);
-            sum = sum * 31 + x.ran(lane, 0);
-        }
-        return sum * 31 + x.best();
+    private static ShaderReady standing() {
+        ShaderReady x = Due.of("fetch 2;alu 3;lane a 1 9;b is add a 7;f is less a 5;when f;b is tex b;end;show b;show a;");
+        x.set(0, 1, 4);
+        x.narrow(0, 1, 6);
+        x.cell(3, 33);
+        x.rule(2);
+        return x;
     }
 
     private void nothingWrong() {
@@ -257,5 +222,13 @@ final class FaultEdges {
         ShaderReady x = Due.of("show 1;");
         s.due("no sign behind another", x.shader(), 0);
         s.due("is a SHADER of nothing", x.count(2), 0);
+        // a fault in the midst of parts and loops leaves nothing for the next reading
+        String[] midst = {"times 2;times 2;?", FLAG + "when f;when f;?", "fetch 1;alu 1;?", TextEdges.names(20) + "?", SIX + "?",
+            "times 9;times 9;show 1;end;end;", FLAG + "when f;?"};
+        for (String text : midst) {
+            ShaderReady next = new ShaderReady();
+            s.holds("a fault of " + text, Due.shader(next, text) != 0);
+            s.due("behind " + text, Due.shader(next, SIX + "fetch 2;alu 2;show 1;" + FOUR + "end;end;end;end;show 1;"), 0);
+        }
     }
 }

@@ -13,43 +13,19 @@ final class NumberEdges {
     }
 
     void ask() {
-        noMoreThan();
-        minAndMax();
-        moduloSixteen();
-        oneOrZero();
-        secondOrThird();
-        onePartAsItsArgIs();
-        uniform();
-        rangeOfInputsAndNumbers();
-        rangeOfAddAndSub();
-        rangeOfMul();
-        rangeOfMinAndMax();
-        rangeOfTex();
-        rangeOfLess();
-        rangeOfSame();
-        rangeOfBothEitherFlip();
-        rangeOfPick();
-        known();
-        standsFor();
-        width();
-        valueOthers();
-        noneSuchArgs();
-        rangeOthers();
-        isOthers();
-        differs();
-        differsOthers();
-        shownNoneSuch();
-        walkedThrows();
-        ranThrows();
-        ranKnown();
-        all();
+        s.each(this::noMoreThan, this::minAndMax, this::moduloSixteen, this::oneOrZero, this::secondOrThird,
+            this::onePartAsItsArgIs, this::uniform, this::rangeOfInputsAndNumbers, this::rangeOfAddAndSub, this::rangeOfMul,
+            this::rangeOfMinAndMax, this::rangeOfTex, this::rangeOfLess, this::rangeOfSame, this::rangeOfBothEitherFlip,
+            this::rangeOfPick, this::known, this::standsFor, this::width, this::valueOthers, this::noneSuchArgs,
+            this::rangeOthers, this::isOthers, this::differs, this::differsOthers, this::shownNoneSuch, this::walkedThrows,
+            this::ranThrows, this::ranKnown, this::all);
     }
 
     private void bothWays(String text, int want) {
         ShaderReady x = Due.of(text);
-        s.due("is of " + text, x.is(x.shown(0), 0), want);
-        s.due("walked of " + text, x.walked(0, 0), want);
         s.due("ran of " + text, x.ran(0, 0), want);
+        s.due("walked of " + text, x.walked(0, 0), want);
+        s.due("is of " + text, x.is(x.shown(0), 0), want);
     }
 
     private void noMoreThan() {
@@ -141,6 +117,15 @@ final class NumberEdges {
         s.due("walked below 5", again.walked(0, 0), 1);
         again.set(0, 0, 7);
         s.due("walked from 5 on", again.walked(0, 0), 4);
+        // a walk that ends within loops leaves nothing for the next one
+        ShaderReady deep = Due.of("lane a 1 9;b is copy 0;times 2;times 2;times 2;b is add b a;show b;end;end;end;");
+        for (int i = 0; i < 8; i++) {
+            s.due("walked(0, " + i + ") within loops", deep.walked(0, i), i + 1);
+        }
+        ShaderReady deepest = Due.of("lane a 1 9;b is copy 0;times 2;times 2;times 2;times 2;b is add b a;end;end;end;show b;end;");
+        for (int i = 0; i < 4; i++) {
+            s.due("walked(0, " + i % 2 + ") behind loops", deepest.walked(0, i % 2), 8 + 8 * (i % 2));
+        }
         // a times within a part that is not walked is not walked either
         ShaderReady loop = Due.of("lane a 0 9;f is less a 5;b is copy 0;times 2;when f;times 3;b is add b 1;end;else;b is add b 9;end;"
             + "end;show b;");
@@ -354,6 +339,16 @@ final class NumberEdges {
                 s.due("value(" + v + ", " + (k + 1) + ")", x.value(v, k + 1), want[v][k]);
             }
         }
+        s.of(9, "4: 1 a FLAG, 5: 1 UNIFORM, 6: 1 KNOWN, 7: 1 NEEDED (0: not)");
+        int[] flags = {0, 0, 1, 0, 1, 0, 0};
+        for (int v = 0; v < flags.length; v++) {
+            s.due("FLAG of " + v, x.value(v, 4), flags[v]);
+            s.due("UNIFORM of " + v, x.value(v, 5), v == 5 ? 1 : 0);
+            s.due("KNOWN of " + v, x.value(v, 6), v == 5 ? 1 : 0);
+            s.due("NEEDED of " + v, x.value(v, 7), 0);
+        }
+        ShaderReady flagged = Due.of("lane a 0 9;f is less a 5;g is pick f f f;h is flip f;k is pick f h f;");
+        s.due("a pick of FLAGS", flagged.value(4, 4), 1);
         s.of(9, "9: HEIGHT (0: not NEEDED)");
         ShaderReady y = Due.of("lane a 0 9;b is add a 1;c is add b 2;show b;");
         int[] heights = {2, 0, 1, 0, 0};

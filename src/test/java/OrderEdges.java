@@ -12,40 +12,13 @@ final class OrderEdges {
     }
 
     void ask() {
-        sources();
-        needed();
-        users();
-        height();
-        eachBehindItsSources();
-        ruleZero();
-        ruleZeroHeights();
-        ruleOne();
-        ruleTwo();
-        ruleThree();
-        ends();
-        atAPlace();
-        theMostOfAll();
-        leaveFirst();
-        lowestFree();
-        lowestEven();
-        usedEver();
-        files();
-        fetchLimit();
-        sourceInTheSameRow();
-        aluLimit();
-        asLongAsCanBe();
-        cyclesOfAFetch();
-        cyclesOfAnAlu();
-        least();
-        moreThanTwelve();
-        kinOthers();
-        orderNoneSuch();
-        placeInAnyOrder();
-        placeOthers();
-        pressureOthers();
-        atOthers();
-        usedOthers();
-        clauseOthers();
+        s.each(this::sources, this::needed, this::users, this::height, this::eachBehindItsSources, this::ruleZero,
+            this::ruleZeroHeights, this::ruleOne, this::ruleTwo, this::ruleThree, this::ends, this::atAPlace,
+            this::theMostOfAll, this::leaveFirst, this::lowestFree, this::lowestEven, this::usedEver, this::files,
+            this::fetchLimit, this::sourceInTheSameRow, this::aluLimit, this::asLongAsCanBe, this::cyclesOfAFetch,
+            this::cyclesOfAnAlu, this::least, this::moreThanTwelve, this::kinOthers, this::orderNoneSuch,
+            this::placeInAnyOrder, this::placeOthers, this::pressureOthers, this::atOthers, this::usedOthers,
+            this::clauseOthers);
     }
 
     private void ordered(String text, int rule, int... want) {
@@ -125,8 +98,15 @@ final class OrderEdges {
         ordered("lane a 0 9;lane c 0 999;b is min a 3;show b;show c;", 0, 0, 3, 1);
         // a is kept: b ends nothing, so the narrow d goes first by its HEIGHT
         ordered("lane a 0 9;lane d 0 9;b is min a 3;e is min d 4;g is min e 2;show a;show b;show g;", 0, 1, 5, 7, 0, 3);
-        // one SOURCE twice ends once
-        ordered("lane a 0 999;lane b 0 9;c is sub a a;d is sub b b;show c;show d;", 0, 1, 3, 0, 2);
+        // a is kept, so b does not end it: d, as narrow, is of more HEIGHT
+        ordered("lane a 0 9;lane d 0 9;b is min a 3;e is min d 4;show a;show b;show e;", 0, 0, 1, 5, 3);
+        // a has another USER behind b, so b does not end it
+        ordered("lane a 0 9;lane d 0 9;b is min a 3;c is min a 2;e is min d 4;show b;show c;show e;", 0, 0, 1, 7, 3, 5);
+        // x ends its second SOURCE alone: that is enough to go ahead of e
+        ordered("lane a 0 9;lane b 0 9;lane e 0 9;x is add a b;g is min e 3;show a;show x;show g;", 0, 0, 1, 3, 2, 5);
+        // c has one SOURCE twice, which ends once: 2 - 1 is no less than 1 of b, which is of more HEIGHT
+        ordered("lane a 0 99;lane b 0 9;c is mul a a;p is min a 5;q is min p 4;r is min q 3;d is min b 2;show c;show r;show d;", 0,
+            0, 4, 6, 8, 1, 10, 2);
     }
 
     private void ruleZeroHeights() {
@@ -250,6 +230,19 @@ final class OrderEdges {
         s.due("the PRESSURE is less", hole.pressure(1), 3);
         ShaderReady narrow = Due.of("lane a 0 9;lane b 0 9;lane c 0 9;show a;show b;show c;");
         s.due("narrow ones", narrow.used(1), 3);
+        // 34 wide ones at once: seven are kept, the others wait for their sums
+        ShaderReady many = Due.of("lane a 0 999;b is copy a;times 7;b is tex b;show b;end;c is copy b;s is copy b;"
+            + "times 9;times 3;b is tex b;end;end;times 9;times 3;c is tex c;s is add s c;end;end;show s;");
+        many.rule(1);
+        s.due("many", many.used(1), 68);
+        s.due("their PRESSURE", many.pressure(1), 68);
+        s.due("all are as walked", many.ran(3, 7), many.walked(3, 7));
+        s.holds("fewer by another RULE", many.rule(0) == 1 && many.used(1) < 68);
+        ShaderReady less = Due.of("given g 0 999;h is add g 1;show g;show h;");
+        s.due("FILE 0", less.used(0), 4);
+        s.holds("narrow", less.narrow(0, 0, 5));
+        s.due("fewer by another RANGE", less.used(0), 2);
+        s.due("from 0 again", less.place(0, 2), 0);
     }
 
     private void files() {

@@ -22,6 +22,17 @@ final class Sentences {
         return text.replaceAll("\\s+", " ");
     }
 
+    /** Tests of sentences; one that throws is wrong, and the others are asked all the same. */
+    void each(Runnable... tests) {
+        for (Runnable test : tests) {
+            try {
+                test.run();
+            } catch (RuntimeException thrown) {
+                due(thrown.toString(), 1, 0);
+            }
+        }
+    }
+
     /** Words that the document does not have would make a test of nothing. */
     void of(int promise, String words) {
         endSentence();

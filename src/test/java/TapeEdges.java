@@ -10,16 +10,9 @@ final class TapeEdges {
     }
 
     void ask() {
-        nothingAtFirst();
-        fetchAndAluAtFirst();
-        callsOfOneObject();
-        bytesHighestFirst();
-        comeBehind();
-        otherSigns();
-        atMostAThousand();
-        beyondAThousand();
-        howManyThereAre();
-        whatReadsItTakesIt();
+        s.each(this::nothingAtFirst, this::fetchAndAluAtFirst, this::callsOfOneObject, this::bytesHighestFirst,
+            this::comeBehind, this::otherSigns, this::atMostAThousand, this::beyondAThousand, this::howManyThereAre,
+            this::whatReadsItTakesIt);
     }
 
     private static ShaderReady blanks(int count) {

@@ -16,30 +16,11 @@ final class WorkEdges {
     }
 
     void ask() {
-        ifThereIsNone();
-        asOftenAsItTells();
-        bothPartsFromTheSameBegin();
-        inputsFirst();
-        asTheyCome();
-        sameArgs();
-        eitherOrder();
-        cameFirst();
-        oneValue();
-        endOfAWhen();
-        unlikeValues();
-        aheadOfItInTheText();
-        shownAsWorked();
-        twoHundredLines();
-        eightShown();
-        sixtyFourValues();
-        firstAsWorked();
-        firstOfALine();
-        ofShownShow();
-        ofValues();
-        theShaderFromThenOn();
-        tableAndRuleStay();
-        partsAnyTime();
-        partsNoneSuch();
+        s.each(this::ifThereIsNone, this::asOftenAsItTells, this::bothPartsFromTheSameBegin, this::inputsFirst,
+            this::asTheyCome, this::sameArgs, this::eitherOrder, this::cameFirst, this::oneValue, this::endOfAWhen,
+            this::unlikeValues, this::aheadOfItInTheText, this::shownAsWorked, this::twoHundredLines, this::eightShown,
+            this::sixtyFourValues, this::firstAsWorked, this::firstOfALine, this::ofShownShow, this::ofValues,
+            this::theShaderFromThenOn, this::nothingOfThoseBefore, this::tableAndRuleStay, this::partsAnyTime, this::partsNoneSuch);
     }
 
     private void ifThereIsNone() {
@@ -166,6 +147,8 @@ final class WorkEdges {
         s.due("of the when's ARG as it was", x.value(b, 1), 2);
         s.due("the first part's", x.value(x.value(b, 2), 1), 1);
         s.due("the second part's", x.value(x.value(b, 3), 1), 2);
+        ShaderReady first = Due.of("b is copy 1;lane a 0 9;f is less a 5;when f;b is copy 2;end;show b;");
+        s.due("of the NAME told first of all, too", first.value(first.shown(0), 0), 13);
         ShaderReady none = Due.of("lane a 0 9;f is less a 5;b is copy a;when f;else;b is copy 2;end;show b;");
         s.due("a part that tells nothing", none.value(none.shown(0), 2), 0);
     }
@@ -221,6 +204,8 @@ final class WorkEdges {
         s.noFault(parts);
         s.fault(5, parts + "^show 1;");
         s.fault(5, "times 9;times 9;times 9;^times 9;end;end;end;end;");
+        ShaderReady again = Due.of(LINES199 + "show 1;");
+        s.due("200 of each text", Due.shader(again, LINES199 + "show 1;"), 0);
     }
 
     private void eightShown() {
@@ -298,6 +283,22 @@ final class WorkEdges {
         s.due("one INPUT", x.count(1), 1);
         s.due("no second one", x.input(1, 0), NONE);
         s.due("nothing SHOWN", x.count(2), 0);
+    }
+
+    private void nothingOfThoseBefore() {
+        s.of(3, "Without a FAULT a SHADER is the SHADER from then on");
+        String[] texts = {"show 3;", "fetch 2;alu 3;given g 0 9;lane a 1 900;f is less g 5;b is add a g;when f;b is tex b;end;show b;show a;",
+            "lane a 0 9;f is less a 5;b is copy 3;times 2;when f;b is mul b a;else;b is add b a;end;end;show b;",
+            LINES199 + "show 1;", "", "given g 0 9;h is add g 600;show h;show g;", "f is less 1 2;when f;end;when f;end;"};
+        for (int first = 0; first < texts.length; first++) {
+            for (int second = 0; second < texts.length; second++) {
+                ShaderReady x = Due.of(texts[first]);
+                s.due("second", Due.shader(x, texts[second]), 0);
+                s.due("third", Due.shader(x, texts[first]), 0);
+                s.due("fourth", Due.shader(x, texts[second]), 0);
+                s.due(texts[second] + " behind " + texts[first], Answers.of(x), Answers.of(Due.of(texts[second])));
+            }
+        }
     }
 
     private void tableAndRuleStay() {
