@@ -228,7 +228,9 @@ final class FaultEdges {
         for (String text : midst) {
             ShaderReady next = new ShaderReady();
             s.holds("a fault of " + text, Due.shader(next, text) != 0);
-            s.due("behind " + text, Due.shader(next, SIX + "fetch 2;alu 2;show 1;" + FOUR + "end;end;end;end;show 1;"), 0);
+            String then = SIX + "fetch 2;alu 2;x is copy b;show 1;" + FOUR + "x is add x a;end;end;end;end;show x;";
+            s.due("behind " + text, Due.shader(next, then), 0);
+            s.due("as if it were the first, behind " + text, Answers.of(next), Answers.of(Due.of(then)));
         }
     }
 }

@@ -40,7 +40,11 @@ final class NumberEdges {
         bothWays(text + "c is sub 0 b;d is sub c 99;show d;", -99999);
         bothWays(text + "c is sub 0 b;d is sub c 100;show d;", -99999);
         bothWays(text + "c is sub 0 b;d is sub c 999;e is add d 1;show e;", -99998);
-        // 99900 * 99900 is more than an int holds
+        // 50000 * 50000 is more than an int holds: it would be less than 0 there
+        String wraps = "lane a 500 999;b is mul a 100;c is sub 0 b;";
+        bothWays(wraps + "d is mul b b;show d;", 99999);
+        bothWays(wraps + "d is mul b c;show d;", -99999);
+        bothWays(wraps + "d is mul c c;show d;", 99999);
         bothWays(text + "c is mul b b;show c;", 99999);
         bothWays(text + "c is sub 0 b;d is mul b c;show d;", -99999);
         bothWays(text + "c is sub 0 b;d is mul c c;show d;", 99999);
@@ -190,6 +194,12 @@ final class NumberEdges {
         range("lane a 0 999;b is mul a a;x is mul b b;", 0, 99999);
         range("lane a 1 999;b is mul a a;c is sub 0 b;x is mul b c;", -99999, -1);
         range("lane a 1 999;b is mul a a;c is sub 0 b;x is mul c c;", 1, 99999);
+        // the ends' products are more than an int holds
+        range("lane a 0 500;b is mul a 100;x is mul b b;", 0, 99999);
+        range("lane a 500 501;b is mul a 100;x is mul b b;", 99999, 99999);
+        range("lane a 500 501;b is mul a 100;c is sub 0 b;x is mul b c;", -99999, -99999);
+        range("lane a 500 501;b is mul a 100;c is sub 0 b;x is mul c c;", 99999, 99999);
+        range("lane a 0 999;b is sub a 500;c is mul b 100;x is mul c c;", -99999, 99999);
     }
 
     private void rangeOfMinAndMax() {

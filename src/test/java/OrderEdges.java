@@ -134,6 +134,7 @@ final class OrderEdges {
         ordered("lane a 0 9;b is add a 1;c is tex a;d is tex b;show c;show d;", 3, 0, 3, 2, 4);
         ordered("lane a 0 9;c is tex a;d is tex 1;show d;show c;", 3, 3, 0, 1);
         ordered("lane a 0 9;lane b 0 9;show b;show a;", 3, 0, 1);
+        ordered("c is tex 5;d is tex 6;lane a 0 9;show d;show c;show a;", 3, 2, 4, 0);
     }
 
     private void ends() {
@@ -357,6 +358,8 @@ final class OrderEdges {
         s.due("none", Due.of("show 1;").best(), 0);
         s.due("a new object", new ShaderReady().best(), 0);
         s.due("one", Due.of("lane a 0 999;show a;").best(), 2);
+        s.due("one of FILE 0", Due.of("given a 0 999;show a;").best(), 2);
+        s.due("of both together", Due.of("given a 0 999;lane b 0 9;show a;show b;").best(), 3);
         ShaderReady x = Due.of(PLAIN);
         for (int rule = 0; rule < 4; rule++) {
             x.rule(rule);
