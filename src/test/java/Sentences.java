@@ -9,13 +9,17 @@ final class Sentences {
     private static final int PROMISES = 30;
 
     private final Due due = new Due();
+    /** Empty where the document can't be read: its words are not looked up then, all else is asked as ever. */
     private final String document;
     private final TreeMap<Integer, Integer> told = new TreeMap<>();
     private String now = "";
     private int askedNow = 1;
 
     Sentences() throws IOException {
-        document = plain(Files.readString(DOCUMENT));
+        document = Files.isReadable(DOCUMENT) ? plain(Files.readString(DOCUMENT)) : "";
+        if (document.isEmpty()) {
+            System.out.println(DOCUMENT + " can't be read: the words of sentences are not looked up");
+        }
     }
 
     private static String plain(String text) {
@@ -39,7 +43,7 @@ final class Sentences {
         now = "promise " + promise + " \"" + words + "\": ";
         askedNow = 0;
         told.merge(promise, 1, Integer::sum);
-        due.holds(now + "stands in the document", document.contains(plain(words)));
+        due.holds(now + "stands in the document", document.isEmpty() || document.contains(plain(words)));
     }
 
     private void endSentence() {
