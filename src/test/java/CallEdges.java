@@ -14,7 +14,7 @@ final class CallEdges {
         s.each(this::setWithinItsRange, this::setGiven, this::setWhatItHad, this::setOthers, this::sixteenCells,
             this::cellWhatItWas, this::cellOthers, this::rules, this::ruleOthers, this::narrowInWhichItIs,
             this::narrowLimits, this::narrowOthers, this::narrowChanges, this::input, this::inputOthers, this::lanes,
-            this::counts, this::namesAtTheEnd, this::countOthers);
+            this::counts, this::namesAtTheEnd, this::countOthers, this::inputWhats);
     }
 
     private void setWithinItsRange() {
@@ -276,5 +276,18 @@ final class CallEdges {
             s.due("count(" + far + ")", x.count(far), NONE);
         }
         s.due("of a new object", new ShaderReady().count(13), NONE);
+    }
+
+    private void inputWhats() {
+        s.of(8, "Of an INPUT, what 0: its VALUE, 1: low, 2: high of its RANGE");
+        ShaderReady x = Due.of("c is copy 4;lane a 3 9;d is add a c;given g 5 7;show d;");
+        s.due("VALUE of a", x.input(0, 0), 0);
+        s.due("VALUE of g, told behind d", x.input(1, 0), 1);
+        s.due("low", x.input(0, 1), 3);
+        s.due("high", x.input(0, 2), 9);
+        s.holds("narrow", x.narrow(0, 1, 5));
+        s.due("low of the RANGE there is", x.input(0, 1), 1);
+        s.due("high of the RANGE there is", x.input(0, 2), 5);
+        s.due("it has what it had", x.input(0, 4), 3);
     }
 }

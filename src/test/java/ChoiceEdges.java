@@ -16,7 +16,7 @@ final class ChoiceEdges {
     void ask() {
         s.each(this::allElseAsNow, this::byOthers, this::aloneShown, this::aloneByTheRule, this::aloneOthers,
             this::narrowedLimits, this::narrowedWhatever, this::narrowedWhats, this::narrowedOthers, this::swappedNext,
-            this::swappedSource, this::swappedOthers);
+            this::swappedSource, this::swappedOthers, this::byWhats, this::swappedWhats);
     }
 
     private void allElseAsNow() {
@@ -204,5 +204,34 @@ final class ChoiceEdges {
         }
         s.due("one alone", Due.of("lane a 0 9;show a;").swapped(0, 0), NONE);
         s.due("none", new ShaderReady().swapped(0, 0), NONE);
+    }
+
+    private void byWhats() {
+        s.of(24, "all else as now, what 0: PRESSURE of both FILES together, 1: CLAUSES, 2: CYCLES");
+        ShaderReady x = Due.of(PLAIN);
+        for (int rule = 0; rule < 4; rule++) {
+            ShaderReady same = Due.of(PLAIN);
+            same.rule(rule);
+            s.due("PRESSURE by " + rule, x.by(rule, 0), same.pressure(2));
+            s.due("CLAUSES by " + rule, x.by(rule, 1), same.count(5));
+            s.due("CYCLES by " + rule, x.by(rule, 2), same.count(6));
+            s.due("USED of FILE 0 by " + rule, x.by(rule, 3), same.used(0));
+            s.due("USED of FILE 1 by " + rule, x.by(rule, 4), same.used(1));
+        }
+        s.due("PRESSURE by 0", x.by(0, 0), 5);
+    }
+
+    private void swappedWhats() {
+        s.of(27, "changed places, what 0: PRESSURE of both FILES together, 1: CLAUSES, 2: CYCLES");
+        ShaderReady x = Due.of(PLAIN);
+        // u x s y t m: 1 2 2 4 5 4; u x s y | t | m: 6, 14, 6
+        int[] want = {5, 3, 26};
+        for (int what = 0; what < want.length; what++) {
+            s.due("swapped(3, " + what + ")", x.swapped(3, what), want[what]);
+        }
+        ShaderReady both = Due.of("given g 0 999;lane a 0 9;b is min a 3;h is min g 2;show b;show h;");
+        both.rule(1);
+        // g a b h: 2 3 3 2; a g b h the same; g a h b: 2 3 2 2
+        s.due("both FILES together", both.swapped(0, 0), 3);
     }
 }

@@ -18,7 +18,8 @@ final class NumberEdges {
             this::rangeOfMinAndMax, this::rangeOfTex, this::rangeOfLess, this::rangeOfSame, this::rangeOfBothEitherFlip,
             this::rangeOfPick, this::known, this::standsFor, this::width, this::valueOthers, this::noneSuchArgs,
             this::rangeOthers, this::isOthers, this::differs, this::differsOthers, this::shownNoneSuch, this::walkedThrows,
-            this::ranThrows, this::ranKnown, this::all);
+            this::ranThrows, this::ranKnown, this::all, this::whatItIs, this::workedByRegisters, this::howItIsMade,
+            this::whatItStandsFor, this::allWhats);
     }
 
     private void bothWays(String text, int want) {
@@ -511,5 +512,80 @@ final class NumberEdges {
         s.due("all 64", full.all(0), -1L);
         s.due("none", full.all(4), 0);
         s.due("of no VALUES", new ShaderReady().all(1), 0);
+    }
+
+    private void whatItIs() {
+        s.of(14, "It is what it IS.");
+        ShaderReady x = Due.of("lane a 0 999;given g 3 9;f is less a 500;b is copy a;times 3;when f;b is mul b g;h is less b 400;when h;"
+            + "b is sub b 900;else;b is tex b;end;else;b is sub 5 b;f is flip f;end;show b;end;c is max b 7;show c;");
+        for (int cell = 0; cell < 16; cell++) {
+            x.cell(cell, 61 * cell % 1000);
+        }
+        int[] numbers = {0, 170, 499, 999};
+        for (int lane = 0; lane < 4; lane++) {
+            x.set(0, lane, numbers[lane]);
+        }
+        for (int i = 0; i < 4; i++) {
+            for (int lane = 0; lane < 4; lane++) {
+                s.due("walked(" + lane + ", " + i + ")", x.walked(lane, i), x.is(x.shown(i), lane));
+            }
+        }
+        s.due("0 * 3 - 900", x.walked(0, 0), -900);
+        s.due("5 - 999", x.walked(3, 0), -994);
+    }
+
+    private void workedByRegisters() {
+        s.of(15, "RUN: the ORDER is worked by REGISTERS, in each LANE");
+        // a and b are taken again and again in the same HALVES, FILE 0 has its own
+        ShaderReady x = Due.of("lane a 1 9;given g 2 9;b is mul a g;times 4;b is add b a;b is mul b 2;end;show b;"
+            + "h is add g 5;c is sub h b;show c;show h;");
+        for (int lane = 0; lane < 4; lane++) {
+            x.set(0, lane, 2 + 2 * lane);
+        }
+        for (int rule = 0; rule < 4; rule++) {
+            x.rule(rule);
+            for (int lane = 0; lane < 4; lane++) {
+                int a = 2 + 2 * lane;
+                int b = 2 * a;
+                for (int i = 0; i < 4; i++) {
+                    b = (b + a) * 2;
+                }
+                s.due("ran(" + lane + ", 0)", x.ran(lane, 0), b);
+                s.due("ran(" + lane + ", 1)", x.ran(lane, 1), 7 - b);
+                s.due("ran(" + lane + ", 2)", x.ran(lane, 2), 7);
+            }
+        }
+    }
+
+    private void howItIsMade() {
+        s.of(9, "how it is made (0 INPUT, 1 NUMBER, 2 add, 3 sub, 4 mul, 5 min, 6 max, 7 tex, 8 less, 9 same, 10 both, 11 either, 12 flip, "
+            + "13 pick)");
+        ShaderReady x = Due.of("lane a 0 9;lane b 0 9;p is add a b;p is sub a b;p is mul a b;p is min a b;p is max a b;p is tex a;"
+            + "f is less a b;g is same a b;h is both f g;h is either f g;h is flip f;p is pick f a b;q is copy p;show 4;");
+        int[] want = {0, 0, 2, 3, 4, 5, 6, 7, 8, 9, 10, 11, 12, 13, 1};
+        s.due("VALUES", x.count(0), want.length);
+        for (int v = 0; v < want.length; v++) {
+            s.due("value(" + v + ", 0)", x.value(v, 0), want[v]);
+        }
+    }
+
+    private void whatItStandsFor() {
+        s.of(9, "8: what it STANDS FOR");
+        ShaderReady x = Due.of("lane a 0 9;f is less a 50;p is pick f a 7;show p;");
+        int[] want = {0, 1, 2, 3, 0};
+        for (int v = 0; v < want.length; v++) {
+            s.due("value(" + v + ", 8)", x.value(v, 8), want[v]);
+        }
+    }
+
+    private void allWhats() {
+        s.of(16, "what 0: NEEDED, 1: UNIFORM, 2: KNOWN, 3: LOW, 4: FLAGS");
+        ShaderReady x = Due.of("given g 0 9;lane a 600 700;f is less a g;h is less a 650;b is add a 1;show b;");
+        // g 0, a 1, f 2 (0), 650 3, h 4, 1 5, b 6
+        s.due("NEEDED", x.all(0), 0b1000010);
+        s.due("UNIFORM", x.all(1), 0b0101001);
+        s.due("KNOWN", x.all(2), 0b0101100);
+        s.due("LOW", x.all(3), 0b0100001);
+        s.due("FLAGS", x.all(4), 0b0010100);
     }
 }

@@ -18,7 +18,8 @@ final class OrderEdges {
             this::fetchLimit, this::sourceInTheSameRow, this::aluLimit, this::asLongAsCanBe, this::cyclesOfAFetch,
             this::cyclesOfAnAlu, this::least, this::moreThanTwelve, this::kinOthers, this::orderNoneSuch,
             this::placeInAnyOrder, this::placeOthers, this::pressureOthers, this::atOthers, this::usedOthers,
-            this::clauseOthers);
+            this::clauseOthers, this::nextIs, this::placesFromZero, this::lives, this::halvesFromZero, this::kinWhats,
+            this::placeWhats, this::clauseWhats);
     }
 
     private void ordered(String text, int rule, int... want) {
@@ -500,5 +501,90 @@ final class OrderEdges {
             s.due("clause(0, " + far + ")", x.clause(0, far), NONE);
         }
         s.due("none", Due.of("show 1;").clause(0, 0), NONE);
+    }
+
+    private void nextIs() {
+        s.of(18, "next is of those that are not in it, and of which all SOURCES are");
+        // by each RULE: the tex waits for the sum, the sum for both INPUTS
+        ShaderReady x = Due.of("lane a 0 9;lane c 0 9;b is add a c;d is tex b;e is add d a;show e;");
+        for (int rule = 0; rule < 4; rule++) {
+            x.rule(rule);
+            int[] want = {0, 1, 2, 3, 4, NONE};
+            for (int p = 0; p < want.length; p++) {
+                s.due("RULE " + rule + " order(" + p + ")", x.order(p), want[p]);
+            }
+        }
+    }
+
+    private void placesFromZero() {
+        s.of(18, "PLACES from 0.");
+        ShaderReady x = Due.of("lane a 0 9;show a;");
+        s.due("order(0)", x.order(0), 0);
+        s.due("place(0, 0)", x.place(0, 0), 0);
+        s.due("order(1)", x.order(1), NONE);
+    }
+
+    private void lives() {
+        s.of(19, "A VALUE LIVES from its PLACE to the last one of its USERS (it ENDS there), or, if a SHOWN one STANDS FOR it");
+        ShaderReady x = Due.of("lane a 0 9;b is add a 1;c is add b a;d is add c a;e is add d b;show e;");
+        // a 0, 1 1, b 2, c 3, d 4, e 5: PLACES a 0, b 1, c 2, d 3, e 4
+        int[] ends = {3, NONE, 4, 3, 4, 5};
+        for (int v = 0; v < ends.length; v++) {
+            s.due("place(" + v + ", 1)", x.place(v, 1), ends[v]);
+        }
+        ShaderReady shown = Due.of("lane a 0 9;b is add a 1;c is add b a;show b;show c;");
+        s.due("b is SHOWN", shown.place(2, 1), 3);
+        s.due("a is not", shown.place(0, 1), 2);
+        ShaderReady stands = Due.of("lane a 0 9;f is less a 50;p is pick f a 7;b is add a 1;show p;show b;");
+        s.due("p, which is SHOWN, stands for a", stands.place(0, 1), 2);
+    }
+
+    private void halvesFromZero() {
+        s.of(19, "REGISTERS are HALVES, from 0, of each FILE");
+        ShaderReady x = Due.of("given g 0 9;given h 0 999;lane a 0 9;lane b 0 999;show g;show h;show a;show b;");
+        x.rule(1);
+        int[] want = {0, 2, 0, 2};
+        for (int v = 0; v < want.length; v++) {
+            s.due("place(" + v + ", 2)", x.place(v, 2), want[v]);
+        }
+        s.due("used(0)", x.used(0), 4);
+        s.due("used(1)", x.used(1), 4);
+    }
+
+    private void kinWhats() {
+        s.of(17, "Of a NEEDED VALUE as bits, what 0: SOURCES, 1: USERS");
+        ShaderReady x = Due.of("lane a 0 9;lane b 0 9;c is add a b;d is add c a;e is tex c;show d;show e;");
+        long[][] want = {{0, 0b01100, 0, 0b11100}, {0, 0b00100, 0, 0b11100}, {0b00011, 0b11000, 0b00011, 0b11000},
+            {0b00101, 0, 0b00111, 0}, {0b00100, 0, 0b00111, 0}};
+        for (int v = 0; v < want.length; v++) {
+            for (int what = 0; what < 4; what++) {
+                s.due("kin(" + v + ", " + what + ")", x.kin(v, what), want[v][what]);
+            }
+        }
+    }
+
+    private void placeWhats() {
+        s.of(19, "what 0: its PLACE, 1: where it ENDS, 2: its lowest REGISTER, 3: its CLAUSE");
+        ShaderReady x = Due.of(PLAIN);
+        int[][] want = {{0, 2, 0, 0}, {1, 5, 0, 0}, {4, 5, 4, 2}, {2, 3, 1, 0}, {3, 6, 2, 1}, {5, 6, 0, 2}};
+        for (int v = 0; v < want.length; v++) {
+            for (int what = 0; what < 4; what++) {
+                s.due("place(" + v + ", " + what + ")", x.place(v, what), want[v][what]);
+            }
+        }
+    }
+
+    private void clauseWhats() {
+        s.of(23, "Of the k-th CLAUSE (from 0), what 0: 1 FETCH (0 ALU), 1: its first PLACE, 2: how many PLACES");
+        ShaderReady x = Due.of(PLAIN);
+        int[][] want = {{0, 0, 3, 5}, {1, 3, 1, 14}, {0, 4, 2, 7}};
+        for (int k = 0; k < want.length; k++) {
+            for (int what = 0; what < 4; what++) {
+                s.due("clause(" + k + ", " + what + ")", x.clause(k, what), want[k][what]);
+            }
+        }
+        ShaderReady first = Due.of("t is tex 1;u is add t 1;show u;");
+        s.due("a FETCH first", first.clause(0, 0), 1);
+        s.due("an ALU behind it", first.clause(1, 0), 0);
     }
 }

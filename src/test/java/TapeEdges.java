@@ -12,7 +12,7 @@ final class TapeEdges {
     void ask() {
         s.each(this::nothingAtFirst, this::fetchAndAluAtFirst, this::callsOfOneObject, this::bytesHighestFirst,
             this::comeBehind, this::otherSigns, this::atMostAThousand, this::beyondAThousand, this::howManyThereAre,
-            this::whatReadsItTakesIt);
+            this::whatReadsItTakesIt, this::none);
     }
 
     private static ShaderReady blanks(int count) {
@@ -169,5 +169,11 @@ final class TapeEdges {
         s.due("empty behind that, too", x.count(11), 0);
         s.due("nothing is a shader", x.shader(), 0);
         s.due("of nothing", x.count(0), 0);
+    }
+
+    private void none() {
+        s.of(1, "`NONE = -1`: None.");
+        s.due("NONE", ShaderReady.NONE, -1);
+        s.due("of a new object", new ShaderReady().shown(0), ShaderReady.NONE);
     }
 }

@@ -17,7 +17,7 @@ final class TextEdges {
             this::onceEach, this::elseLeftOut, this::times, this::fourWithinOneAnother, this::showNotWithinWhen, this::args,
             this::opsOfTwoNums, this::tex, this::flagsOfNums, this::flagsOfFlags, this::flip, this::pick, this::copy,
             this::whenAndShow, this::otherWords, this::toldAgain, this::toldToTheEndOfThePart, this::anotherOneElsewhere,
-            this::twentyNames);
+            this::twentyNames, this::forms, this::types, this::toldBy, this::byTheText);
     }
 
     static String names(int count) {
@@ -424,5 +424,52 @@ final class TextEdges {
         s.noFault(FLAG + names(18) + "when f;x is copy 1;else;y is copy 1;end;when f;z is copy 1;end;w is copy 1;");
         s.fault(5, FLAG + names(18) + "when f;x is copy 1;^y is copy 1;");
         s.fault(5, FLAG + names(18) + "when f;x is copy 1;end;y is copy 1;^z is copy 1;");
+    }
+
+    private void forms() {
+        s.of(3, "given NAME N N ; lane NAME N N ; fetch N ; alu N ; NAME is OP ARGS ; when ARG ; else ; times N ; end ; show ARG ;");
+        String[] lines = {"given a 1 2 ;", "lane a 1 2 ;", "fetch 1 ;", "alu 1 ;", "x is copy 1 ;", "show 1 ;"};
+        for (String line : lines) {
+            s.noFault(line);
+            s.fault(1, line.substring(0, line.length() - 1) + "^");
+            s.fault(1, line.substring(0, line.length() - 1) + "^show 1;");
+            s.fault(1, line + "^;");
+        }
+        s.noFault(FLAG + "when f ; else ; end ; times 2 ; end ;");
+        s.fault(1, FLAG + "when f ^else ;");
+        s.fault(1, FLAG + "when f ; else ^end ;");
+        s.fault(1, FLAG + "when f ; else ; end ^times 2 ;");
+        s.fault(1, "times 2 ^end ;");
+        s.fault(1, "times 2 ; end ^");
+    }
+
+    private void types() {
+        s.of(3, "TYPES: NUM (NUMBERS, INPUTS), FLAG.");
+        s.noFault("lane a 0 1;given b 0 1;show a;show b;show 1;x is add a b;");
+        s.fault(6, "lane a 0 1;x is flip ^a;");
+        s.fault(6, "given a 0 1;x is flip ^a;");
+        s.fault(6, "x is flip ^0;");
+        s.fault(6, "x is flip ^1;");
+    }
+
+    private void toldBy() {
+        s.of(3, "It is told by given, lane, is");
+        s.noFault("given a 0 1;show a;");
+        s.noFault("lane a 0 1;show a;");
+        s.noFault("a is copy 1;show a;");
+        s.fault(2, "show ^a;");
+        s.fault(2, "when ^a;");
+        s.due("each is one", Due.of("given a 0 1;lane b 0 1;c is copy 1;").count(12), 3);
+    }
+
+    private void byTheText() {
+        s.of(3, "What is told where goes by the text");
+        // worked a second time, the begin of a times has what its end told: by the text it has not
+        s.fault(2, "times 2;y is copy ^x;x is copy 1;end;");
+        s.fault(2, FLAG + "times 2;when f;y is copy ^x;end;x is copy 1;end;");
+        s.noFault("times 2;x is copy 1;y is copy x;end;show y;");
+        // whichever part is taken, each tells its own
+        s.fault(2, FLAG + "when f;x is copy 1;end;show ^x;");
+        s.fault(2, "f is less 2 1;when f;else;x is copy 1;end;show ^x;");
     }
 }
