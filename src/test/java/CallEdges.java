@@ -44,6 +44,16 @@ final class CallEdges {
             }
             s.due("it had that in another one, too", x.set(1, 3 - lane, 7), 6);
         }
+        // six of given, each set in its last LANE: no other one has it
+        ShaderReady six = Due.of("given a 1 9;given b 1 9;given c 1 9;given d 1 9;given e 1 9;given g 1 9;");
+        for (int i = 5; i >= 0; i--) {
+            s.due("set of " + i, six.set(i, 3, i + 3), 1);
+            for (int other = 0; other < 6; other++) {
+                for (int lane = 0; lane < 4; lane++) {
+                    s.due("INPUT " + other + " in LANE " + lane, six.input(other, 4 + lane), other < i ? 1 : other + 3);
+                }
+            }
+        }
         ShaderReady one = Due.of(TEXT);
         one.set(0, 1, 8);
         s.due("one of lane: there alone", one.input(0, 4) * 1000 + one.input(0, 5) * 100 + one.input(0, 6) * 10 + one.input(0, 7), 3833);

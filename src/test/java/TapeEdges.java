@@ -133,6 +133,14 @@ final class TapeEdges {
         ShaderReady cut = blanks(994);
         s.due("994 and show 5;", Due.feed(cut, "show 5;"), 1000);
         s.due("without its ;", cut.shader(), 1 + 16 * 1000);
+        // a tape that is full to its last sign, whatever that is
+        String[] last = {"x", "show", "5", "show 5", ";", "?", "abcdefgh", "1234"};
+        int[] faults = {1 + 16 * 1000, 1 + 16 * 1000, 1 + 16 * 999, 1 + 16 * 1000, 1 + 16 * 999, 1 + 16 * 999, 1 + 16 * 992, 1 + 16 * 996};
+        for (int i = 0; i < last.length; i++) {
+            ShaderReady full = blanks(1000 - last[i].length());
+            s.due("full with " + last[i], Due.feed(full, last[i]), 1000);
+            s.due("read with " + last[i], full.shader(), faults[i]);
+        }
         ShaderReady half = blanks(984);
         // of 24 the first 16 come: two lines of three
         s.due("984 and 24", Due.feed(half, "show 1; show 2; show 3; "), 1000);
@@ -168,6 +176,15 @@ final class TapeEdges {
         s.due("a fault as it is worked", x.shader(), 5 + 16 * 8);
         s.due("empty behind that, too", x.count(11), 0);
         s.due("nothing is a shader", x.shader(), 0);
+        // nothing of a longer tape stands behind a shorter one: a word, a number, a ;
+        String[] longer = {"show abcdefg;", "show 12345678;", "show ;;;;;;;;", "show        ;"};
+        for (String text : longer) {
+            for (String cut : new String[] {"show", "show ", "show 1", "show x", "sho", "show 1;", "s"}) {
+                ShaderReady y = new ShaderReady();
+                Due.shader(y, text);
+                s.due(cut + " behind " + text, Due.shader(y, cut), Due.shader(new ShaderReady(), cut));
+            }
+        }
         s.due("of nothing", x.count(0), 0);
     }
 

@@ -222,6 +222,14 @@ final class WorkEdges {
         ShaderReady x = Due.of(FULL + "show b;");
         s.due("64", x.count(0), 64);
         s.due("the last is shown", x.shown(0), 63);
+        // full, and the first and the last are SHOWN, or the first alone
+        ShaderReady ends = Due.of(FULL + "show a;show b;");
+        s.due("all are NEEDED", ends.all(0), -1L);
+        s.due("kept", ends.place(0, 1), 64);
+        s.due("walked", ends.walked(0, 1), ends.ran(0, 1));
+        ShaderReady first = Due.of(FULL + "show a;");
+        s.due("the first alone is NEEDED", first.all(0), 1);
+        s.due("best of it", first.best(), 1);
         s.fault(5, FULL + "show ^1;");
         s.fault(5, FULL + "c is ^tex b;");
         s.noFault(FULL + "c is copy b;c is add a a;times 8;show c;end;");
