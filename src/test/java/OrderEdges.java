@@ -232,14 +232,15 @@ final class OrderEdges {
         s.due("the PRESSURE is less", hole.pressure(1), 3);
         ShaderReady narrow = Due.of("lane a 0 9;lane b 0 9;lane c 0 9;show a;show b;show c;");
         s.due("narrow ones", narrow.used(1), 3);
-        // 34 wide ones at once: seven are kept, the others wait for their sums
+        // 64 VALUES, 35 of them wide and there at once: seven are kept, the others wait for their sums
         ShaderReady many = Due.of("lane a 0 999;b is copy a;times 7;b is tex b;show b;end;c is copy b;s is copy b;"
-            + "times 9;times 3;b is tex b;end;end;times 9;times 3;c is tex c;s is add s c;end;end;show s;");
+            + "times 7;times 4;b is tex b;end;end;times 7;times 4;c is tex c;s is add s c;end;end;show s;");
+        s.due("VALUES", many.count(0), 64);
         many.rule(1);
-        s.due("many", many.used(1), 68);
-        s.due("their PRESSURE", many.pressure(1), 68);
+        s.due("many", many.used(1), 70);
+        s.due("their PRESSURE", many.pressure(1), 70);
         s.due("all are as walked", many.ran(3, 7), many.walked(3, 7));
-        s.holds("fewer by another RULE", many.rule(0) == 1 && many.used(1) < 68);
+        s.holds("fewer by another RULE", many.rule(0) == 1 && many.used(1) < 70);
         ShaderReady less = Due.of("given g 0 999;h is add g 1;show g;show h;");
         s.due("FILE 0", less.used(0), 4);
         s.holds("narrow", less.narrow(0, 0, 5));

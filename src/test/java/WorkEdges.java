@@ -298,15 +298,23 @@ final class WorkEdges {
         String[] texts = {"show 3;", "fetch 2;alu 3;given g 0 9;lane a 1 900;f is less g 5;b is add a g;when f;b is tex b;end;show b;show a;",
             "lane a 0 9;f is less a 5;b is copy 3;times 2;when f;b is mul b a;else;b is add b a;end;end;show b;",
             LINES199 + "show 1;", "", "given g 0 9;h is add g 600;show h;show g;", "f is less 1 2;when f;end;when f;end;"};
-        for (int first = 0; first < texts.length; first++) {
-            for (int second = 0; second < texts.length; second++) {
-                ShaderReady x = Due.of(texts[first]);
-                s.due("second", Due.shader(x, texts[second]), 0);
-                s.due("third", Due.shader(x, texts[first]), 0);
-                s.due("fourth", Due.shader(x, texts[second]), 0);
-                s.due(texts[second] + " behind " + texts[first], Answers.of(x), Answers.of(Due.of(texts[second])));
+        for (String first : texts) {
+            for (String second : texts) {
+                behind(second, first);
+                behind(second, first, first);
+                behind(second, first, second);
+                behind(second, first, second, first);
             }
         }
+    }
+
+    private void behind(String text, String... before) {
+        ShaderReady x = new ShaderReady();
+        for (String earlier : before) {
+            s.due("earlier " + earlier, Due.shader(x, earlier), 0);
+        }
+        s.due("shader of " + text, Due.shader(x, text), 0);
+        s.due(text + " behind " + String.join(" and ", before), Answers.of(x), Answers.of(Due.of(text)));
     }
 
     private void tableAndRuleStay() {
