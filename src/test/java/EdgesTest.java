@@ -12,6 +12,7 @@ public final class EdgesTest {
         new OrderEdges(sentences).ask();
         new CallEdges(sentences).ask();
         new ChoiceEdges(sentences).ask();
+        new RestEdges(sentences).ask();
         sentences.end();
     }
 }

@@ -18,7 +18,7 @@ final class FaultEdges {
     }
 
     private void placeFromZero() {
-        s.of(3, "kind + 16 * the place (from 0) of a token");
+        s.of(3, "FAULTS, kind + 16 * the place (from 0) of a token");
         s.due("at 0", Due.shader(new ShaderReady(), "?"), 1);
         s.due("at 1", Due.shader(new ShaderReady(), " ?"), 17);
         s.due("kind 2 at 5", Due.shader(new ShaderReady(), "show x;"), 2 + 16 * 5);

@@ -370,7 +370,7 @@ final class NumberEdges {
     }
 
     private void rangeOthers() {
-        s.of(10, "what 0: least, 1: greatest; Integer.MIN_VALUE: others.");
+        s.of(10, "RANGE of a VALUE, what 0: least, 1: greatest; Integer.MIN_VALUE: others.");
         ShaderReady x = Due.of("lane a 4 9;show a;");
         s.due("least", x.range(0, 0), 4);
         s.due("greatest", x.range(0, 1), 9);
@@ -558,7 +558,7 @@ final class NumberEdges {
     }
 
     private void howItIsMade() {
-        s.of(9, "how it is made (0 INPUT, 1 NUMBER, 2 add, 3 sub, 4 mul, 5 min, 6 max, 7 tex, 8 less, 9 same, 10 both, 11 either, 12 flip, "
+        s.of(9, "Of a VALUE, what 0: how it is made (0 INPUT, 1 NUMBER, 2 add, 3 sub, 4 mul, 5 min, 6 max, 7 tex, 8 less, 9 same, 10 both, 11 either, 12 flip, "
             + "13 pick)");
         ShaderReady x = Due.of("lane a 0 9;lane b 0 9;p is add a b;p is sub a b;p is mul a b;p is min a b;p is max a b;p is tex a;"
             + "f is less a b;g is same a b;h is both f g;h is either f g;h is flip f;p is pick f a b;q is copy p;show 4;");

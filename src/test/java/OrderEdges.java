@@ -319,7 +319,7 @@ final class OrderEdges {
     }
 
     private void asLongAsCanBe() {
-        s.of(23, "the ORDER cut into rows of tex (FETCH) and of others (ALU), each as long as can be");
+        s.of(23, "CLAUSES: the ORDER cut into rows of tex (FETCH) and of others (ALU), each as long as can be");
         ShaderReady x = Due.of("lane a 0 9;b is tex a;lane c 0 9;d is tex c;e is add b d;show e;");
         x.rule(1);
         // a c | b d | e
@@ -565,7 +565,7 @@ final class OrderEdges {
     }
 
     private void placeWhats() {
-        s.of(19, "what 0: its PLACE, 1: where it ENDS, 2: its lowest REGISTER, 3: its CLAUSE");
+        s.of(19, "Of a NEEDED VALUE, what 0: its PLACE, 1: where it ENDS, 2: its lowest REGISTER, 3: its CLAUSE");
         ShaderReady x = Due.of(PLAIN);
         int[][] want = {{0, 2, 0, 0}, {1, 5, 0, 0}, {4, 5, 4, 2}, {2, 3, 1, 0}, {3, 6, 2, 1}, {5, 6, 0, 2}};
         for (int v = 0; v < want.length; v++) {

@@ -125,7 +125,7 @@ final class TextEdges {
     }
 
     private void lowAndHigh() {
-        s.of(3, "an INPUT from a low to a high (no less)");
+        s.of(3, "given, lane: an INPUT from a low to a high (no less)");
         for (String kind : new String[] {"given", "lane"}) {
             s.noFault(kind + " a 5 5;");
             s.noFault(kind + " a 5 6;");
@@ -278,7 +278,7 @@ final class TextEdges {
     }
 
     private void opsOfTwoNums() {
-        s.of(3, "add, sub, mul, min, max of two NUMS: NUM");
+        s.of(3, "OPS: add, sub, mul, min, max of two NUMS: NUM");
         for (String op : new String[] {"add", "sub", "mul", "min", "max"}) {
             pairOf(op, false);
             s.noFault("x is " + op + " 1 2;show x;");
